@@ -7,7 +7,7 @@ public final class WovenRows {
     public static final long LOST = -1000000000000000000L;
 
     private static final int MEMBERS = 10, CELLS = 17, LAST_CELL = 16, PLACES = 6;
-    private static final int DOWN = 0, UP = 1, HOME = 2;
+    private static final int ROWS = 2, DOWN = 0, UP = 1, HOME = 2;
     private static final int KEYS = 12, SILENT = 12;
     private static final int MOST_WIDTH = 15, MOST_WIDE = 30, MOST_DELAY = 20;
     private static final int MOST_SIGNS = 60, MOST_BELLS = 99, MOST_RULES = 10, MOST_SIGHTS = 8;
@@ -27,6 +27,7 @@ public final class WovenRows {
     private final Meetings meetings = new Meetings();
     private final Orders arranging = new Orders();
     private final Watch watch = new Watch();
+    private final Fewest fewest = new Fewest();
     private final Odds odds = new Odds();
 
     public WovenRows() {
@@ -173,17 +174,13 @@ public final class WovenRows {
             return OUTSIDE;
         }
         trial.takeFrom(town);
-        int fewest = 0;
-        int best = NONE;
+        fewest.begin();
         for (int beats = 0; beats <= MOST_DELAY; beats++) {
             put(trial.delays, DOWN, beats);
             meetings.count(trial);
-            if (best == NONE || meetings.clashes < fewest) {
-                fewest = meetings.clashes;
-                best = beats;
-            }
+            fewest.offer(beats, meetings.clashes);
         }
-        return what == 0 ? fewest : best;
+        return what == 0 ? fewest.count : fewest.by;
     }
 
     public int door(int v, int what) {
@@ -191,39 +188,29 @@ public final class WovenRows {
             return OUTSIDE;
         }
         trial.takeFrom(town);
-        int fewest = 0;
-        int best = NONE;
+        fewest.begin();
         for (int cell = 0; cell < CELLS; cell++) {
             int was = at(trial.cells, cell);
             put(trial.cells, cell, was + v);
             meetings.count(trial);
             put(trial.cells, cell, was);
-            if (best == NONE || meetings.clashes < fewest) {
-                fewest = meetings.clashes;
-                best = cell;
-            }
+            fewest.offer(cell, meetings.clashes);
         }
-        return what == 0 ? fewest : best;
+        return what == 0 ? fewest.count : fewest.by;
     }
 
     public int grate(int what) {
         if (!within(what, 0, 2)) {
             return OUTSIDE;
         }
-        int now = meetings.grating(town, 0);
         if (what == 0) {
-            return now;
+            return meetings.grating(town, 0);
         }
-        int fewest = now;
-        int best = 0;
-        for (int more = 1; more < KEYS; more++) {
-            int count = meetings.grating(town, more);
-            if (count < fewest) {
-                fewest = count;
-                best = more;
-            }
+        fewest.begin();
+        for (int more = 0; more < KEYS; more++) {
+            fewest.offer(more, meetings.grating(town, more));
         }
-        return what == 1 ? best : fewest;
+        return what == 1 ? fewest.by : fewest.count;
     }
 
     public int rule(int first, int second) {
@@ -293,8 +280,11 @@ public final class WovenRows {
         if (watch.count == 0) {
             return NONE;
         }
-        watch.findBeat();
-        return what == 0 ? watch.bestBeat : watch.leftAtMost;
+        fewest.begin();
+        for (int beat = 0; beat <= LAST_BEAT; beat++) {
+            fewest.offer(beat, watch.mostLeftAt(beat));
+        }
+        return what == 0 ? fewest.by : fewest.count;
     }
 
     public long chance(int t, int k, int part) {
@@ -608,6 +598,24 @@ public final class WovenRows {
         }
     }
 
+    /** Of all that is offered, from the least on, the first by which there are fewest. */
+    private static final class Fewest {
+        private int by = NONE;
+        private int count = 0;
+
+        void begin() {
+            by = NONE;
+            count = 0;
+        }
+
+        void offer(int one, int itsCount) {
+            if (by == NONE || itsCount < count) {
+                by = one;
+                count = itsCount;
+            }
+        }
+    }
+
     /** The signs of the days that are told. */
     private static final class Pad {
         private static final int WANTS_ACT = 0, WANTS_VERB = 1, WANTS_OTHER = 2, BROKEN = 3;
@@ -710,7 +718,7 @@ public final class WovenRows {
         private final int[] widths = new int[MEMBERS];
         private final int[] keys = new int[MEMBERS];
         private final int[] cells = new int[CELLS];
-        private final int[] delays = new int[HOME];
+        private final int[] delays = new int[ROWS];
         private final Rows rows = new Rows();
         private final Pairs rules = new Pairs(MOST_RULES);
         private final Pairs sights = new Pairs(MOST_SIGHTS);
@@ -981,7 +989,8 @@ public final class WovenRows {
             for (int i = 0; i < size; i++) {
                 int leader = 0;
                 for (int one = size - 1; one >= 0; one--) {
-                    if (holds(set, one) && mayLead(rules, set, one) && at(answers, without(set, one)) > 0) {
+                    // Where the whole row has an order, so has whatever is left of it.
+                    if (holds(set, one) && mayLead(rules, set, one)) {
                         leader = one;
                     }
                 }
@@ -1019,8 +1028,6 @@ public final class WovenRows {
         private int count = 0;
         private int memberBits = 0;
         private int lateBits = 0;
-        private int bestBeat = NONE;
-        private int leftAtMost = 0;
 
         void fit(Town town) {
             count = 0;
@@ -1064,19 +1071,8 @@ public final class WovenRows {
             return row == DOWN ? gone : LAST_CELL - gone;
         }
 
-        void findBeat() {
-            bestBeat = NONE;
-            leftAtMost = 0;
-            for (int beat = 0; beat <= LAST_BEAT; beat++) {
-                int most = mostLeftAt(beat);
-                if (bestBeat == NONE || most < leftAtMost) {
-                    bestBeat = beat;
-                    leftAtMost = most;
-                }
-            }
-        }
-
-        private int mostLeftAt(int beat) {
+        /** How many twos are left at the most, wherever it is at this beat. */
+        int mostLeftAt(int beat) {
             fill(tally, 0);
             int most = 0;
             for (int i = 0; i < count; i++) {

@@ -154,7 +154,10 @@ public final class DrawnRunsTest {
                 break;
             case 9:
                 c = draw.nextBoolean() ? near(0, 40) : near(0, 60);
-                b = draw.nextInt(6) == 0 ? near(0, 16) : model.cellAt(row, i, late, c);
+                b = model.cellAt(row, i, late, c);
+                if (b < 0 || draw.nextInt(6) == 0) {
+                    b = near(0, 16);
+                }
                 due("seen(" + b + ", " + c + ")", x.seen(b, c), model.seen(b, c));
                 break;
             case 10:

@@ -93,6 +93,10 @@ public final class Part2Test {
         check.due("row 0 place 0", x.told(80), 2);
         check.due("row 0 place 1", x.told(81), 3);
         check.due("done() again, of nothing", x.done(), 0);
+        WovenRows y = Check.behind("BdCdAdB-");
+        check.due("row 0 place 0 behind B", y.told(80), 2);
+        check.due("row 0 place 1 behind B", y.told(81), 0);
+        check.due("row 0 place 2 behind B", y.told(82), NONE);
     }
 
     private static void promise10Place() {

@@ -113,6 +113,28 @@ public final class Part3Test {
         x.member(1, 15, 12);
         ordered("with B or C in the wide cell", x, 0, 1, 102);
         ordered("of the other row", x, 1, 2, 9);
+        x = Check.behind("BdCdAu");
+        x.member(0, 15, 12);
+        x.wide(8, 20);
+        ordered("with A in the other row", x, 0, 1, 12);
+        // With row 1 three beats later the second meets J in cell 9, not between 8 and 9 or 9 and 10.
+        WovenRows y = Check.behind("AdBdCdJu");
+        y.wide(9, 30);
+        y.delay(1, 3);
+        y.member(0, 15, 12);
+        ordered("with A in the wide cell 9", y, 0, 0, 102);
+        y.delay(1, 4);
+        ordered("with A in the wide cell 9 in the last place", y, 0, 0, 120);
+        Check.tell(y, "AxJ").done();
+        y.delay(1, 0);
+        y.delay(0, 2);
+        ordered("with A in row 1, which nobody's place helps", y, 1, 3, 0);
+        WovenRows z = Check.behind("JdAuBuCu");
+        z.wide(9, 30);
+        z.member(0, 15, 12);
+        ordered("of row 1, with A in the wide cell 9 in the last place", z, 1, 0, 120);
+        z.delay(0, 1);
+        ordered("of row 1, where the wide cell is of no place", z, 1, 1, 12);
         check.due("order(-1, 0)", x.order(-1, 0), OUTSIDE);
         check.due("order(2, 0)", x.order(2, 0), OUTSIDE);
         check.due("order(0, -1)", x.order(0, -1), OUTSIDE);
@@ -141,6 +163,9 @@ public final class Part3Test {
         x.delay(1, 5);
         check.due("start(0) where no delay misses", x.start(0), 1);
         check.due("start(1) where no delay misses", x.start(1), 0);
+        x.delay(1, 3);
+        check.due("start(0) by the last delay", x.start(0), 0);
+        check.due("start(1) by the last delay", x.start(1), 20);
         check.due("start(-1)", x.start(-1), OUTSIDE);
         check.due("start(2)", x.start(2), OUTSIDE);
     }
@@ -202,6 +227,18 @@ public final class Part3Test {
         check.due("grate(1) of all even keys", y.grate(1), 1);
         check.due("grate(2) of all even keys", y.grate(2), 1);
         check.holds("grate() changes nothing", before.equals(Check.stateOf(y)));
+        // 10 grates with 11, 6 with 0; 1, which is 13 less 12, with none of both.
+        WovenRows z = Check.behind("AdBdJu");
+        z.member(0, 5, 10);
+        z.member(1, 5, 6);
+        z.member(9, 5, 11);
+        check.due("grate(0) before keys begin anew", z.grate(0), 1);
+        check.due("grate(1) where keys begin anew", z.grate(1), 2);
+        check.due("grate(2) where keys begin anew", z.grate(2), 0);
+        z = Check.behind("BdAu");
+        z.member(1, 5, 4);
+        z.member(0, 5, 5);
+        check.due("grate(0) with A in row 1", z.grate(0), 1);
         check.due("grate(-1)", y.grate(-1), OUTSIDE);
         check.due("grate(3)", y.grate(3), OUTSIDE);
     }

@@ -12,6 +12,7 @@ public final class Part4Test {
         promise26Chance();
         promise26AllTenths();
         promise27Year();
+        promise27YearByOneDraw();
         promise27YearLong();
         promise28Image();
         promise29Restore();
@@ -194,6 +195,30 @@ public final class Part4Test {
         check.due("year(0, 1, 3)", y.year(0, 1, 3), OUTSIDE);
         Check.tell(y, "Ad?");
         check.due("year() with a fault on the pad", y.year(0, 2, 0), 3);
+    }
+
+    private static void promise27YearByOneDraw() {
+        // Seed 873: 65549 less 65537 is 12: C joins row 0.
+        WovenRows x = Check.behind("Ju");
+        x.member(2, 15, 12);
+        check.due("year(873, 1, 0)", x.year(873, 1, 0), 2);
+        check.due("year(873, 1, 1): C clashes", x.year(873, 1, 1), 1);
+        check.due("year(873, 1, 2)", x.year(873, 1, 2), 0);
+        // Seed 5: 449, by 10 44 leaves 4: J goes home.
+        check.due("year(5, 1, 0): J goes home", x.year(5, 1, 0), 0);
+        // Seeds 1, 17, 801: 149, 1349, 60149: J changes places with B, G, B. Who is wide clashes with J alone then.
+        int[] seed = {1, 17, 801};
+        int[] other = {1, 6, 1};
+        for (int i = 0; i < seed.length; i++) {
+            WovenRows y = Check.behind("JdAuBuCuDuGuHu");
+            y.member(9, 15, 12);
+            check.due("clashes before", y.meets(1), 6);
+            check.due("year(" + seed[i] + ", 1, 1): J changes places", y.year(seed[i], 1, 1), 1);
+            y.member(9, 5, 12);
+            y.member(other[i], 15, 12);
+            check.due("clashes before", y.meets(1), 1);
+            check.due("year(" + seed[i] + ", 1, 1): with the wide one", y.year(seed[i], 1, 1), 6);
+        }
     }
 
     private static void promise27YearLong() {
