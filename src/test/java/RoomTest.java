@@ -12,13 +12,13 @@ public final class RoomTest {
         callAll(x);
         // The least of several rounds: the machine itself may make something in one of them.
         long least = Long.MAX_VALUE;
-        for (int round = 0; round < 20; round++) {
+        for (int round = 0; round < 12; round++) {
             long before = made();
             callAll(x);
             least = Math.min(least, made() - before);
         }
         long nothing = Long.MAX_VALUE;
-        for (int round = 0; round < 20; round++) {
+        for (int round = 0; round < 12; round++) {
             long before = made();
             nothing = Math.min(nothing, made() - before);
         }
