@@ -23,6 +23,7 @@ public final class Bounds3Test {
         orderOfNobodyAndOfOne();
         orderOfAsManyDigits();
         orderOfFewest();
+        orderByBothDelays();
         orderOutside();
         startByZeroToTwenty();
         startOfNobody();
@@ -42,6 +43,7 @@ public final class Bounds3Test {
         ordersThatCanNotBe();
         ordersOfThoseWhoAreBothInTheRow();
         ordersOutside();
+        whoeverTheyAre();
         check.end();
     }
 
@@ -309,6 +311,27 @@ public final class Bounds3Test {
         }
     }
 
+    // "ORDER" by how late both ROWS set out.
+    private static void orderByBothDelays() {
+        for (int row = 0; row <= 1; row++) {
+            WovenRows x = Check.behind(row == 0 ? "AdBdCdJu" : "AuBuCuJd");
+            x.member(0, 15, 12);
+            // Who sets out two beats later than J meets it in the one wide cell.
+            x.wide(row == 0 ? 7 : 9, 20);
+            ordered("where the one of the third place clears", x, row, 0, 120);
+            x.delay(row, 1);
+            ordered("a beat late, that of the second place", x, row, 0, 102);
+            x.delay(row, 2);
+            ordered("two beats late, that of the first place", x, row, 0, 12);
+            x.delay(row, 3);
+            ordered("three beats late, none", x, row, 1, 12);
+            x.delay(1 - row, 2);
+            ordered("the other row two beats late, that of the second place", x, row, 0, 102);
+            x.delay(row, 20);
+            ordered("too late to meet", x, row, 0, 12);
+        }
+    }
+
     // "order: OUTSIDE: the ROW, too."
     private static void orderOutside() {
         WovenRows x = Check.behind("AdJu");
@@ -492,6 +515,25 @@ public final class Bounds3Test {
         check.due("grate(2)", y.grate(2), 0);
         y.member(0, 5, 1);
         check.due("grate(1) of 1 and 11: nothing more is needed", y.grate(1), 0);
+        // 0 and 1 grate with 11, and with 12, 13, 14, which are 0, 1, 2; not with 15, which is 3.
+        y = Check.behind("AdBdJu");
+        y.member(0, 5, 0);
+        y.member(1, 5, 1);
+        y.member(9, 5, 11);
+        check.due("grate(0) of 0, 1 and 11", y.grate(0), 1);
+        check.due("grate(1) of 0, 1 and 11", y.grate(1), 4);
+        check.due("grate(2) of 0, 1 and 11", y.grate(2), 0);
+        // All even keys: an odd key grates with two, an even one with the one 6 away, also from 12 on.
+        WovenRows z = Check.behind("AdBdCdDdEdFdJu");
+        for (int member = 0; member < 6; member++) {
+            z.member(member, 5, 2 * member);
+        }
+        for (int b = 0; b < 12; b++) {
+            z.member(9, 5, b);
+            check.due("grate(0) of all even keys and " + b, z.grate(0), b % 2 + 1);
+            check.due("grate(1) of all even keys and " + b, z.grate(1), b % 2);
+            check.due("grate(2) of all even keys and " + b, z.grate(2), 1);
+        }
     }
 
     // "GRATE" where nobody goes, or nobody of one row.
@@ -630,5 +672,37 @@ public final class Bounds3Test {
             check.due("orders(" + far + ", 0)", x.orders(far, 0), OUTSIDE);
             check.due("orders(0, " + far + ")", x.orders(0, far), OUTSIDE);
         }
+    }
+
+    // "MEMBERS 0 to 9": what is told of two is told of any two.
+    private static void whoeverTheyAre() {
+        for (int a = 0; a <= 9; a++) {
+            for (int b = 0; b <= 9; b++) {
+                if (a != b) {
+                    anyTwo(a, b);
+                }
+            }
+        }
+    }
+
+    private static void anyTwo(int a, int b) {
+        String label = "of " + a + " down and " + b + " up";
+        WovenRows x = Check.behind((char) ('A' + a) + "d" + (char) ('A' + b) + "u");
+        x.member(a, 7, 0);
+        x.member(b, 6, 1);
+        meetings(label, x, 1, 1, 10 * a + b, 16);
+        ordered(label, x, 0, 1, a);
+        ordered(label, x, 1, 1, b);
+        check.due("start(1) " + label, x.start(1), 17);
+        check.due("door(1, 1) " + label, x.door(1, 1), 8);
+        check.due("grate(0) " + label, x.grate(0), 1);
+        check.due("grate(1) " + label, x.grate(1), 1);
+        check.due("orders(0, 1) " + label, x.orders(0, 1), a);
+        check.due("orders(1, 1) " + label, x.orders(1, 1), b);
+        x.seen(7, 7);
+        check.due("who(1) of row 0 " + label, x.who(1), 1 << a);
+        x.forget();
+        x.seen(7, 9);
+        check.due("who(1) of row 1 " + label, x.who(1), 1 << a | 1 << b);
     }
 }
